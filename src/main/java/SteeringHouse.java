@@ -266,7 +266,11 @@ public final class SteeringHouse {
     }
 
     public int margin(int cell) {
-        return hasCell(cell) ? readySafety().marginOf(cell) : NONE;
+        if (!hasCell(cell)) {
+            return NONE;
+        }
+        readySafety().settleMargins();
+        return safety.margins[cell];
     }
 
     // ---- ranks and gains
@@ -803,6 +807,16 @@ public final class SteeringHouse {
             spread(NUM, world % nums, 0, values);
         }
 
+        /** Whether one of the worlds stands where only spans that are made so much wider let it. */
+        private boolean isEdge(int wider, int[] values) {
+            for (int slot = BASE[WORLD]; slot < BASE[WORLD] + many[WORLD]; slot++) {
+                if (values[slot] == low[slot] - wider || values[slot] == high[slot] + wider) {
+                    return true;
+                }
+            }
+            return false;
+        }
+
         private void spreadMove(int cell, int push, int world, int[] values) {
             spread(STATE, cell, 0, values);
             spread(PUSH, push, 0, values);
@@ -1178,8 +1192,9 @@ public final class SteeringHouse {
         }
 
         private int reserved() {
+            long word = at < tokens.count ? tokens.meanings[at] : 0;
             for (int i = 0; i < RESERVED.length; i++) {
-                if (RESERVED[i] == meaning()) {
+                if (RESERVED[i] == word) {
                     return i;
                 }
             }
@@ -1480,74 +1495,63 @@ public final class SteeringHouse {
             }
         }
 
-        private int marginOf(int cell) {
-            if (!widened) {
-                widened = true;
-                for (int each = 0; each < thing.cells; each++) {
-                    margins[each] = open[each] == 0 ? -2 : 0;
-                    wideOpen[each] = open[each];
-                }
-                widen(1);
-                widen(2);
+        private void settleMargins() {
+            if (widened) {
+                return;
             }
-            return margins[cell];
+            widened = true;
+            System.arraycopy(open, 0, wideOpen, 0, thing.cells);
+            System.arraycopy(moves.reach, 0, wideReach, 0, thing.cells * thing.pushes * moves.words);
+            for (int cell = 0; cell < thing.cells; cell++) {
+                margins[cell] = open[cell] == 0 ? -2 : 0;
+            }
+            for (int wider = 1; wider <= 2; wider++) {
+                widen(wider);
+                for (int cell = 0; cell < thing.cells; cell++) {
+                    if (wideOpen[cell] != 0) {
+                        margins[cell] = wider;
+                    }
+                }
+            }
         }
 
         /** A wider world leaves no cell safe that wasn't, so only what is left is looked at. */
         private void widen(int wider) {
-            if (thing.many[WORLD] > 0) {
-                for (int word = 0; word < MOST_WORDS; word++) {
-                    gone[word] = -1;
-                }
-                for (int cell = 0; cell < thing.cells; cell++) {
-                    if (wideOpen[cell] != 0) {
-                        gone[cell >> 5] &= ~(1 << (cell & 31));
+            for (int cell = 0; cell < thing.cells; cell++) {
+                for (int push = 0; push < thing.pushes; push++) {
+                    if ((wideOpen[cell] >> push & 1) != 0 && !staysByWider(cell, push, wider)) {
+                        wideOpen[cell] &= ~(1 << push);
                     }
                 }
-                fillWide(wider);
-                int went = 1;
-                for (int round = 0; went > 0 && round <= thing.cells; round++) {
-                    went = shrink(wideReach, wideOpen);
-                }
             }
+            Arrays.fill(gone, -1);
             for (int cell = 0; cell < thing.cells; cell++) {
                 if (wideOpen[cell] != 0) {
-                    margins[cell] = wider;
+                    gone[cell >> 5] &= ~(1 << (cell & 31));
                 }
+            }
+            int went = 1;
+            for (int round = 0; went > 0 && round <= thing.cells; round++) {
+                went = shrink(wideReach, wideOpen);
             }
         }
 
-        private void fillWide(int wider) {
+        /** Adds to what a push may lead to by narrower worlds what it may by those that are new now. */
+        private boolean staysByWider(int cell, int push, int wider) {
             int worlds = thing.parts(WORLD, wider) * thing.numParts;
-            Arrays.fill(wideReach, 0, thing.cells * thing.pushes * moves.words, 0);
+            thing.spread(STATE, cell, 0, values);
+            thing.spread(PUSH, push, 0, values);
             for (int world = 0; world < worlds; world++) {
                 thing.spreadWorld(world, wider, values);
-                for (int push = 0; push < thing.pushes; push++) {
-                    thing.spread(PUSH, push, 0, values);
-                    fillWideCells(push);
-                }
-            }
-        }
-
-        private void fillWideCells(int push) {
-            for (int cell = 0; cell < thing.cells; cell++) {
-                if ((wideOpen[cell] >> push & 1) != 0) {
-                    thing.spread(STATE, cell, 0, values);
+                if (thing.isEdge(wider, values)) {
                     int next = thing.lead(values);
-                    moves.mark(wideReach, cell * thing.pushes + push, next);
-                    if (next < 0) {
-                        dropWide(cell, push);
+                    if (next < 0 || wideOpen[next] == 0) {
+                        return false;
                     }
+                    moves.mark(wideReach, cell * thing.pushes + push, next);
                 }
             }
-        }
-
-        /** A push that may lead out is lost at once; the last one stays, for the round that takes its cell. */
-        private void dropWide(int cell, int push) {
-            int left = wideOpen[cell] & ~(1 << push);
-            if (left != 0) {
-                wideOpen[cell] = left;
-            }
+            return true;
         }
     }
 

@@ -1201,12 +1201,11 @@ final class Naive {
             }
         }
         for (int t = 1; t <= tick; t++) {
-            Map<String, Integer> push = new HashMap<>(pushes.get(ticks.get(t - 1)));
+            int done = ticks.get(t - 1);
             if (fault >= 1 && fault <= thing.spans.get(1).size()) {
-                Named failing = thing.spans.get(1).get(fault - 1);
-                push.put(failing.name, failing.low > 0 ? failing.low : failing.high < 0 ? failing.high : 0);
+                done = failing(done, fault);
             }
-            int done = pushes.indexOf(push);
+            Map<String, Integer> push = pushes.get(done);
             Set<List<Integer>> then = new HashSet<>();
             for (List<Integer> pair : now) {
                 for (int world = pair.get(1); world < worlds.size(); world += nums) {
@@ -1221,6 +1220,27 @@ final class Naive {
             now = then;
         }
         return now;
+    }
+
+    /** The push that is done if part by of the told one fails. */
+    int failing(int told, int by) {
+        Map<String, Integer> push = new HashMap<>(pushes.get(told));
+        Named failing = thing.spans.get(1).get(by - 1);
+        push.put(failing.name, failing.low > 0 ? failing.low : failing.high < 0 ? failing.high : 0);
+        return pushes.indexOf(push);
+    }
+
+    /** A sight of the first cell. */
+    int firstSight(int cell, int num, int i) {
+        Map<String, Integer> values = new HashMap<>(cells.get(cell));
+        for (Named push : thing.spans.get(1)) {
+            values.put(push.name, 0);
+        }
+        for (Named world : thing.spans.get(2)) {
+            values.put(world.name, world.low);
+        }
+        values.putAll(thing.all(thing.spans.get(3), 0).get(num));
+        return worth(new ArrayList<>(thing.sights.values()).get(i), values);
     }
 
     boolean seen(int tick, int until, int fault, int cell, Map<String, Integer> others) {

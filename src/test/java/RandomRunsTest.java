@@ -12,6 +12,9 @@ public final class RandomRunsTest {
     private final Naive naive = new Naive();
     private final StringBuilder log = new StringBuilder();
     private final String run;
+    /** What really goes on in the watched thing: a row of cell, push and world for each tick. */
+    private final List<int[]> truth = new ArrayList<>();
+    private int trueFault;
 
     private RandomRunsTest(long seed) {
         random = new Random(seed);
@@ -62,6 +65,10 @@ public final class RandomRunsTest {
     // ---- texts
 
     private void tell() {
+        if (any(3) == 0) {
+            give(any(6) == 0 ? spoil(steering()) : steering(), 0);
+            return;
+        }
         List<String> lines = new ArrayList<>();
         List<String> told = new ArrayList<>();
         int states = 1 + any(3);
@@ -69,6 +76,9 @@ public final class RandomRunsTest {
         int worlds = any(3);
         int nums = any(3);
         int wide = states == 1 ? 9 : states == 2 ? 5 : 3;
+        if (any(40) == 0) {
+            wide = states == 1 ? 15 : states == 2 ? 12 : 7;
+        }
         for (int i = 0; i < states; i++) {
             lines.add("state " + NAMES[i] + " " + span(wide));
             told.add(NAMES[i]);
@@ -84,6 +94,9 @@ public final class RandomRunsTest {
         for (int i = 0; i < nums; i++) {
             lines.add("num " + NAMES[7 + i] + " " + span(nums == 2 || worlds > 0 ? 2 : 3));
             told.add(NAMES[7 + i]);
+        }
+        if (any(2) == 0) {
+            addTameSteps(lines, told, states);
         }
         int steps = any(4) == 0 ? any(9) : states;
         boolean plain = any(3) == 0;
@@ -103,6 +116,62 @@ public final class RandomRunsTest {
             text = spoil(text);
         }
         give(text, 0);
+    }
+
+    /** A thing that someone might really want to steer. */
+    private String steering() {
+        int n = 2 + any(6);
+        int m = 1 + any(3);
+        String x = "state x -" + n + " to " + n;
+        String kept = " > -" + (n + 1) + " and ";
+        String push = "; push u -" + any(3) + " to " + (1 + any(2));
+        String world = "; world w -" + any(2) + " to " + any(2);
+        String num = "; num k " + (any(3) - 1) + " to " + (1 + any(3));
+        String sight = any(3) == 0 ? "" : "; sight s = x" + (any(3) == 0 ? " + w" : any(2) == 0 ? " * u" : "");
+        switch (any(7)) {
+            case 0:
+                return "state x 0 to " + n + push + "; x = x + u" + sight.replace("w", "1");
+            case 1:
+                return x + push + world + "; x = x + u + w if x + u + w" + kept + "x + u + w < " + (n + 1) + sight;
+            case 2:
+                return x + "; state v -" + m + " to " + m + push + world + "; x = x + v; v = v + u + w" + sight;
+            case 3:
+                return x + push + world + num + "; x = x + k * u if x + k * u" + kept + "x + k * u < " + (n + 1)
+                        + "; x = x + w if x < 1" + sight;
+            case 4:
+                return x + "; state y 0 to " + m + push + "; push v 0 to 1" + world + num
+                        + "; x = x + u * k; y = y + v if y < " + m + "; y = y - v + w * w if x < 1" + sight
+                        + "; sight r = y - v";
+            case 5:
+                return x + push + world + num + "; x = x - 1 if x > 0; x = x + 1 if x < 0 - w; x = u - k" + sight;
+            default:
+                return "state x -9 to 9; state y -3 to 3; state z 0 to 1" + push + "; x = " + line() + "; y = " + line()
+                        + "; z = " + line() + "; sight s = " + line();
+        }
+    }
+
+    private String line() {
+        return (any(2) == 0 ? "- " : "") + any(5) + " * x" + (any(2) == 0 ? " - " : " + ") + any(5) + " * y"
+                + (any(2) == 0 ? " - " : " + ") + any(22) + " * z" + (any(2) == 0 ? " + u * " + any(4) : "");
+    }
+
+    /** Steps that are taken only where they don't lead out, so that there is much to be kept and reached. */
+    private void addTameSteps(List<String> lines, List<String> told, int states) {
+        for (int i = 0; i < states; i++) {
+            String[] words = lines.get(i).split(" ");
+            String sum = any(3) == 0 ? stepSum(told, states) : NAMES[i] + " + " + told.get(any(told.size()));
+            if (any(3) == 0) {
+                sum += " - " + told.get(any(told.size()));
+            }
+            String low = words[2].equals("0") ? "- 1" : Integer.toString(Integer.parseInt(words[2]) - 1);
+            String high = Integer.toString(Integer.parseInt(words[4]) + 1);
+            lines.add(NAMES[i] + " = " + sum + " if " + sum + " > " + low + " and " + sum + " < " + high);
+            if (any(4) == 0) {
+                lines.add(NAMES[i] + " = " + words[2]);
+            } else if (any(4) > 0) {
+                lines.add(NAMES[i] + " = " + NAMES[i]);
+            }
+        }
     }
 
     private String span(int most) {
@@ -203,8 +272,9 @@ public final class RandomRunsTest {
         if (names.isEmpty() || any(15) == 0) {
             names.add(NAMES[any(NAMES.length)]);
         }
-        String text = what == 3 ? sum(names) : what == 1 && any(3) > 0
-                ? names.get(0) + (any(2) == 0 ? " > -" : " < ") + any(4) : test(names);
+        String brief = names.get(any(names.size()));
+        brief += any(3) == 0 ? " = " + any(3) : (any(2) == 0 ? " > -" : " < ") + any(4);
+        String text = what == 3 ? sum(names) : any(3) > 0 ? brief : test(names);
         if (any(10) == 0) {
             text = spoil(text);
         }
@@ -338,7 +408,7 @@ public final class RandomRunsTest {
         boolean most = any(2) == 0;
         int p = push();
         switch (any(14)) {
-            case 0, 1, 2 -> due("tick " + p, house.tick(p), naive.tick(p));
+            case 0, 1, 2 -> askTick(p);
             case 3, 4, 5 -> askTold(t, i);
             case 6 -> due("can " + i, house.can(i), naive.can(i));
             case 7 -> due("can " + (i + 2), house.can(i + 2), naive.can(i + 2));
@@ -357,11 +427,50 @@ public final class RandomRunsTest {
         }
     }
 
-    /** Mostly a sight that some cell, push and world give, so that cells are left. */
+    /** What goes on is kept as long as it doesn't go out. */
+    private void askTick(int p) {
+        int had = naive.ticks.size();
+        due("tick " + p, house.tick(p), naive.tick(p));
+        if (had == 0 && naive.ticks.size() == 1) {
+            beginTruth();
+        }
+        if (naive.ticks.size() == had + 1 && truth.size() == had + 1) {
+            int nums = naive.nums();
+            int world = any(naive.worlds.size() / nums) * nums + truth.get(had)[2] % nums;
+            int push = p;
+            if (trueFault >= 1 && trueFault <= naive.thing.spans.get(1).size()) {
+                push = naive.failing(p, trueFault);
+            }
+            int next = naive.leadOf(truth.get(had)[0], push, world);
+            if (next >= 0) {
+                truth.add(new int[] {next, push, world});
+            }
+        }
+    }
+
+    private void beginTruth() {
+        truth.clear();
+        truth.add(new int[] {any(naive.cells.size()), -1, any(naive.nums())});
+        trueFault = any(2) == 0 ? 0 : any(naive.thing.spans.get(1).size() + naive.thing.sights.size() + 1);
+    }
+
+    private int trueSight(int t, int i) {
+        int[] row = truth.get(t);
+        if (trueFault == naive.thing.spans.get(1).size() + 1 + i) {
+            return 0;
+        }
+        return t == 0 ? naive.firstSight(row[0], row[2], i) : naive.sight(row[0], row[1], row[2], i);
+    }
+
+    /** Mostly a sight that is there, or that some cell, push and world give, so that cells are left. */
     private void askTold(int t, int i) {
         int value = any(5) - 2;
-        if (naive.thing != null && i >= 0 && i < naive.thing.sights.size() && any(4) > 0) {
-            value = naive.sight(any(naive.cells.size()), any(naive.pushes.size()), any(naive.worlds.size()), i);
+        if (naive.ticks.isEmpty() && naive.thing != null) {
+            beginTruth();
+        }
+        if (naive.thing != null && i >= 0 && i < naive.thing.sights.size() && any(15) > 0) {
+            value = t >= 0 && t < truth.size() ? trueSight(t, i)
+                    : naive.sight(any(naive.cells.size()), any(naive.pushes.size()), any(naive.worlds.size()), i);
         }
         due("told " + t + " " + i + " " + value, house.told(t, i, value), naive.told(t, i, value));
     }
