@@ -19,7 +19,6 @@ public final class SteeringHouse {
     private static final int MOST_CELLS = 400;
     private static final int MOST_PUSHES = 9;
     private static final int MOST_WORLDS = 27;
-    private static final int MOST_ROWS = MOST_CELLS * MOST_PUSHES;
     private static final int MOST_WORDS = MOST_CELLS / 32 + 1;
     private static final int MOST_SUM = 1000000;
     private static final int LOST = 1000000;
@@ -50,7 +49,7 @@ public final class SteeringHouse {
     private final Model thing = new Model();
     private final Model draft = new Model();
     private final Formulas wish = new Formulas();
-    private final Reader reader = new Reader();
+    private final Reader reader = new Reader(draft);
     private final Moves moves = new Moves(thing);
     private final Wishes wishes = new Wishes(thing, moves);
     private final Safety safety = new Safety(thing, moves, wishes);
@@ -606,6 +605,11 @@ public final class SteeringHouse {
         return watcher;
     }
 
+    /** A row that is long enough; what stood in a shorter one is not kept, as all is worked out anew then. */
+    private static int[] longEnough(int[] row, int need) {
+        return row.length >= need ? row : new int[Math.max(need, 2 * row.length)];
+    }
+
     /** The sums and tests of one text: factors in a row, each with the sign ahead of it. */
     private static final class Formulas {
         private static final int PLUS = 0;
@@ -975,6 +979,11 @@ public final class SteeringHouse {
         private Formulas formulas;
         private final Tokens tokens = new Tokens();
 
+        private Reader(Model draft) {
+            model = draft;
+            formulas = draft.formulas;
+        }
+
         private boolean readThing(int[] tape, int n, Model draft) {
             draft.clear();
             begin(tape, n, draft, draft.formulas);
@@ -1226,8 +1235,8 @@ public final class SteeringHouse {
         private final int[] values = new int[SLOTS];
         private boolean filled;
         private int words;
-        private final int[] leads = new int[MOST_ROWS * MOST_WORLDS];
-        private final int[] reach = new int[MOST_ROWS * MOST_WORDS];
+        private int[] leads = new int[0];
+        private int[] reach = new int[0];
 
         private Moves(Model thing) {
             this.thing = thing;
@@ -1243,7 +1252,10 @@ public final class SteeringHouse {
                 return;
             }
             filled = true;
-            Arrays.fill(reach, 0, thing.cells * thing.pushes * words, 0);
+            int rows = thing.cells * thing.pushes;
+            leads = longEnough(leads, rows * thing.worlds);
+            reach = longEnough(reach, rows * words);
+            Arrays.fill(reach, 0, rows * words, 0);
             for (int world = 0; world < thing.worlds; world++) {
                 thing.spreadWorld(world, 0, values);
                 for (int push = 0; push < thing.pushes; push++) {
@@ -1282,12 +1294,12 @@ public final class SteeringHouse {
         private int goodCells;
         private final int[] good = new int[MOST_WORDS];
         private final int[] goal = new int[MOST_WORDS];
-        private final int[] costs = new int[MOST_ROWS];
+        private int[] costs = new int[0];
         private boolean settled;
         private final int[] reaches = new int[MOST_CELLS];
         private final int[] laws = new int[MOST_CELLS];
         private final int[] done = new int[MOST_WORDS];
-        private final int[] watched = new int[MOST_ROWS];
+        private int[] watched = new int[0];
 
         private Wishes(Model thing, Moves moves) {
             this.thing = thing;
@@ -1297,6 +1309,7 @@ public final class SteeringHouse {
         private void renew() {
             Arrays.fill(good, 0);
             Arrays.fill(goal, 0);
+            costs = longEnough(costs, thing.cells * thing.pushes);
             Arrays.fill(costs, 0);
             for (int cell = 0; cell < thing.cells; cell++) {
                 good[cell >> 5] |= 1 << (cell & 31);
@@ -1352,6 +1365,7 @@ public final class SteeringHouse {
                 return;
             }
             settled = true;
+            watched = longEnough(watched, thing.cells * thing.pushes);
             Arrays.fill(watched, 0);
             Arrays.fill(laws, -2);
             for (int word = 0; word < MOST_WORDS; word++) {
@@ -1413,7 +1427,7 @@ public final class SteeringHouse {
         private final int[] open = new int[MOST_CELLS];
         private final int[] margins = new int[MOST_CELLS];
         private final int[] wideOpen = new int[MOST_CELLS];
-        private final int[] wideReach = new int[MOST_ROWS * MOST_WORDS];
+        private int[] wideReach = new int[0];
         private final int[] gone = new int[MOST_WORDS];
         private final int[] fresh = new int[MOST_WORDS];
 
@@ -1501,7 +1515,9 @@ public final class SteeringHouse {
             }
             widened = true;
             System.arraycopy(open, 0, wideOpen, 0, thing.cells);
-            System.arraycopy(moves.reach, 0, wideReach, 0, thing.cells * thing.pushes * moves.words);
+            int need = thing.cells * thing.pushes * moves.words;
+            wideReach = longEnough(wideReach, need);
+            System.arraycopy(moves.reach, 0, wideReach, 0, need);
             for (int cell = 0; cell < thing.cells; cell++) {
                 margins[cell] = open[cell] == 0 ? -2 : 0;
             }
@@ -1561,8 +1577,8 @@ public final class SteeringHouse {
         private final Moves moves;
         private final Wishes wishes;
         private int horizons = -1;
-        private final int[] amounts = new int[(MOST_HORIZON + 1) * MOST_CELLS];
-        private final int[] laws = new int[(MOST_HORIZON + 1) * MOST_CELLS];
+        private int[] amounts = new int[0];
+        private int[] laws = new int[0];
 
         private Payments(Model thing, Moves moves, Wishes wishes) {
             this.thing = thing;
@@ -1575,9 +1591,11 @@ public final class SteeringHouse {
         }
 
         private void settle(int horizon) {
+            amounts = longEnough(amounts, (MOST_HORIZON + 1) * thing.cells);
+            laws = longEnough(laws, (MOST_HORIZON + 1) * thing.cells);
             for (int h = horizons + 1; h <= horizon; h++) {
                 for (int cell = 0; cell < thing.cells; cell++) {
-                    int at = h * MOST_CELLS + cell;
+                    int at = h * thing.cells + cell;
                     laws[at] = -2;
                     amounts[at] = wishes.isGood(cell) ? 0 : LOST;
                     if (h > 0 && wishes.isGood(cell)) {
@@ -1599,8 +1617,8 @@ public final class SteeringHouse {
                     law = push;
                 }
             }
-            amounts[h * MOST_CELLS + cell] = least;
-            laws[h * MOST_CELLS + cell] = law;
+            amounts[h * thing.cells + cell] = least;
+            laws[h * thing.cells + cell] = law;
         }
 
         private int mostBehind(int cell, int push, int h) {
@@ -1613,15 +1631,15 @@ public final class SteeringHouse {
 
         private int behind(int cell, int push, int world, int h) {
             int next = moves.leadOf(cell, push, world);
-            return next < 0 ? LOST : amounts[(h - 1) * MOST_CELLS + next];
+            return next < 0 ? LOST : amounts[(h - 1) * thing.cells + next];
         }
 
         private int paid(int cell, int horizon) {
-            return amounts[horizon * MOST_CELLS + cell];
+            return amounts[horizon * thing.cells + cell];
         }
 
         private int lawOf(int cell, int horizon) {
-            return laws[horizon * MOST_CELLS + cell];
+            return laws[horizon * thing.cells + cell];
         }
 
         private int hardest(int cell, int horizon, int i) {
@@ -1952,7 +1970,6 @@ public final class SteeringHouse {
         private static final int KNOWN_LANE = 5;
         private static final int LANES = 6;
         private static final int SIGHTS = 2;
-        private static final int LANE = (MOST_TICKS + 1) * MOST_CELLS;
 
         private final Model thing;
         private final Moves moves;
@@ -1962,7 +1979,7 @@ public final class SteeringHouse {
         private final int[] pushes = new int[MOST_TICKS + 1];
         private final int[] told = new int[(MOST_TICKS + 1) * SIGHTS];
         private final int[] toldAt = new int[(MOST_TICKS + 1) * SIGHTS];
-        private final int[] masks = new int[LANES * LANE];
+        private int[] masks = new int[0];
         private final int[] reached = new int[LANES];
         private int until;
 
@@ -2013,7 +2030,7 @@ public final class SteeringHouse {
         }
 
         private int cellsIn(int lane, int tick) {
-            int start = lane * LANE + tick * MOST_CELLS;
+            int start = startOf(lane, tick);
             int count = 0;
             for (int cell = 0; cell < thing.cells; cell++) {
                 if (masks[start + cell] != 0) {
@@ -2025,14 +2042,14 @@ public final class SteeringHouse {
 
         private boolean mayBe(int cell) {
             bring(0, 0, ticks, MOST_TICKS);
-            return masks[ticks * MOST_CELLS + cell] != 0;
+            return masks[startOf(0, ticks) + cell] != 0;
         }
 
         private int bound(int state, boolean most) {
             bring(0, 0, ticks, MOST_TICKS);
             int found = NO_VALUE;
             for (int cell = 0; cell < thing.cells; cell++) {
-                if (masks[ticks * MOST_CELLS + cell] != 0) {
+                if (masks[startOf(0, ticks) + cell] != 0) {
                     thing.spread(STATE, cell, 0, values);
                     int value = values[state];
                     boolean better = most ? value > found : value < found;
@@ -2058,7 +2075,7 @@ public final class SteeringHouse {
             bring(0, 0, ticks, MOST_TICKS);
             int fitting = 0;
             for (int cell = 0; cell < thing.cells; cell++) {
-                fitting |= masks[ticks * MOST_CELLS + cell];
+                fitting |= masks[startOf(0, ticks) + cell];
             }
             return fitting;
         }
@@ -2096,10 +2113,15 @@ public final class SteeringHouse {
             return different;
         }
 
+        private int startOf(int lane, int tick) {
+            return (lane * (MOST_TICKS + 1) + tick) * thing.cells;
+        }
+
         private void bring(int lane, int fault, int tick, int known) {
             until = known;
+            masks = longEnough(masks, LANES * (MOST_TICKS + 1) * thing.cells);
             for (int each = reached[lane] + 1; each <= tick; each++) {
-                int start = lane * LANE + each * MOST_CELLS;
+                int start = startOf(lane, each);
                 Arrays.fill(masks, start, start + thing.cells, 0);
                 if (each == 0) {
                     beginLane(start, fault);
@@ -2134,7 +2156,7 @@ public final class SteeringHouse {
                 thing.spreadWorld(world, 0, values);
                 int bit = 1 << (world % nums);
                 for (int cell = 0; cell < thing.cells; cell++) {
-                    if ((masks[start - MOST_CELLS + cell] & bit) != 0) {
+                    if ((masks[start - thing.cells + cell] & bit) != 0) {
                         int next = moves.leadOf(cell, push, world);
                         if (next >= 0 && (masks[start + next] & bit) == 0 && agrees(tick, next, fault)) {
                             masks[start + next] |= bit;

@@ -8,7 +8,7 @@ import java.util.List;
 import java.util.NoSuchElementException;
 import java.util.Random;
 
-/** Any arguments in any state: no call throws but worst(), none makes objects, and two runs answer alike. */
+/** Any arguments in any state: no call throws but worst(), rows are used again, and two runs answer alike. */
 public final class EveryCallTest {
     private static final int[] EDGES = {-2147483648, 2147483647, -1, 0, 1, 2, 3, 19, 20, 21, 29, 30, 31, 399, 400, 401,
         999, 1000, 127, 128, -128, -129, -999, -1000, 26, 27, 32, 64, 536870912, 1073741824};
@@ -33,7 +33,7 @@ public final class EveryCallTest {
         for (int run = 0; run < 30; run++) {
             Checks.due("run " + run + " is the same twice", play(calls, run), play(calls, run));
         }
-        dearestCallsMakeNothing();
+        roomIsKept();
         Checks.end("EveryCallTest");
     }
 
@@ -78,18 +78,24 @@ public final class EveryCallTest {
                 .getThreadAllocatedBytes(Thread.currentThread().getId());
     }
 
-    private static void dearestCallsMakeNothing() {
+    /** Rows grow to what the largest thing needs, and are used again. */
+    private static void roomIsKept() {
         SteeringHouse house = new SteeringHouse();
         Checks.feed(house, TEXTS[0]);
         all(house);
         long before = made();
         house = new SteeringHouse();
         long born = made() - before;
-        Checks.due("a house has less than 400,000 ints (" + born + " bytes)", born < 1600000 ? 1 : 0, 1);
+        Checks.due("a new house is small (" + born + " bytes)", born < 40000 ? 1 : 0, 1);
         Checks.feed(house, TEXTS[0]);
         before = made();
         all(house);
-        Checks.due("its calls make nothing", made() - before < 1000 ? 1 : 0, 1);
+        long grown = made() - before;
+        Checks.due("a full house has some 300,000 ints (" + grown + " bytes)", grown < 1300000 ? 1 : 0, 1);
+        Checks.feed(house, TEXTS[0]);
+        before = made();
+        all(house);
+        Checks.due("what was made is used again", made() - before < 1000 ? 1 : 0, 1);
     }
 
     private static void all(SteeringHouse house) {

@@ -54,6 +54,7 @@ public final class LinearTest {
         linear(all + "x = u * w", 0);
         linear(all + "x = x * 0 * y", 0);
         linear(all + "x = 20 * x", 1);
+        linear(all + "x = - 20 * x - 20 * u; sight s = - 20 * y", 1);
         linear(all + "x = 21 * x", 0);
         linear(all + "x = - 21 * w", 0);
         linear(all + "x = 21 * u", 0);
@@ -82,6 +83,9 @@ public final class LinearTest {
         due("no push", Checks.house("state x 0 to 1").rank(false), 0);
         String three = "state x 0 to 1; state y 0 to 1; state z 0 to 1; push u 0 to 1; push v 0 to 1; ";
         due("chain", Checks.house(three + "x = y; y = z; z = u").rank(false), 3);
+        due("chain from the second push", Checks.house(three + "x = y; y = z; z = v").rank(false), 3);
+        due("other two of three", Checks.house(three + "x = x + u; z = z + v").rank(false), 2);
+        due("the last two of three", Checks.house(three + "y = y + u; z = z + v").rank(false), 2);
         due("chain from its middle", Checks.house(three + "x = y; y = u; z = z").rank(false), 2);
         due("twice the same", Checks.house(three + "x = u; y = u; z = u").rank(false), 1);
         due("by both", Checks.house(three + "x = x + u; y = y + v; z = x").rank(false), 3);

@@ -196,6 +196,11 @@ public final class ProofsTest {
         due("more is as good", sure.breaks(), -2);
         sure.claim(2, 1);
         due("less isn't", sure.breaks(), 2);
+        SteeringHouse first = Checks.house(LINE);
+        Checks.goal(first, "x = 0");
+        first.claim(0, 0);
+        first.claim(1, 1);
+        due("to cell 0 by PUSH 0", first.breaks(), -2);
         SteeringHouse zero = Checks.house(LINE);
         Checks.goal(zero, "x = 1");
         zero.claim(1, 0);

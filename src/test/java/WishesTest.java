@@ -231,6 +231,8 @@ public final class WishesTest {
         due("by one, not by two", out.margin(0), 1);
         SteeringHouse two = Checks.house("state x 0 to 9; world w 0 to 0; world d 5 to 5; x = 12 if d - w > 6; x = 1");
         due("both are made wider", two.margin(0), 0);
+        SteeringHouse low = Checks.house("state x 0 to 9; world w 0 to 0; num k 0 to 0; x = 12 if w = - 2; x = 1");
+        due("the low end is the first world", low.margin(0), 1);
         SteeringHouse none = Checks.house("state x 0 to 9");
         due("no world", none.margin(0), 2);
     }
