@@ -19,6 +19,7 @@ public final class WatcherTest {
         probes();
         anew();
         goodChanges();
+        thirtyTicks();
         Checks.end("WatcherTest");
     }
 
@@ -335,5 +336,31 @@ public final class WatcherTest {
         due("by the good of now", house.can(0), 3);
         Checks.goal(house, "x = 1");
         due("the goal is of no matter", house.can(0), 3);
+    }
+
+    private static void thirtyTicks() {
+        SteeringHouse house = Checks.house("state x 1 to 3; push u 0 to 1; push v 0 to 1; sight s = x + u; sight r = x + v; "
+                + "x = x");
+        for (int tick = 1; tick <= 30; tick++) {
+            house.tick(3);
+            if (tick < 29) {
+                due("told", house.told(tick, 0, 3), true);
+            }
+        }
+        due("fault 0", house.can(0), 1);
+        due("push 1 fails", house.can(1), 1);
+        due("push 2 fails", house.can(2), 1);
+        due("sight 1 fails", house.can(3), 0);
+        due("sight 2 fails", house.can(4), 1);
+        due("at 2", house.canBe(1), 1);
+        due("at 3 with a failing push", house.guess(0, true), 2);
+        due("told", house.told(30, 1, 4), true);
+        due("only push 1", house.named(), 1);
+        due("told of the last tick but one", house.told(29, 1, 0), true);
+        due("nothing is left", house.named(), -3);
+        due("told of the last tick", house.told(30, 0, 0), true);
+        due("all are told", house.told(30, 0, 0), false);
+        due("known", house.known(30), 0);
+        due("known before", house.known(29), 1);
     }
 }

@@ -128,6 +128,9 @@ public final class WishesTest {
         Checks.goal(worst, "x = 0");
         due("at the worst, 9", worst.ticks(9), 8);
         due("at the worst, 3", worst.ticks(3), 2);
+        SteeringHouse through = Checks.house("state x 0 to 2; x = 0 if x = 2; x = 1 if x = 0");
+        Checks.goal(through, "x = 1");
+        due("through cell 0", through.ticks(2), 2);
         SteeringHouse blown = Checks.house(BLOWN);
         Checks.goal(blown, "x > - 2 and x < 2");
         due("the world can hold it off", blown.ticks(5), -2);
@@ -248,6 +251,10 @@ public final class WishesTest {
         SteeringHouse chain = Checks.house("state x 0 to 2; world w 0 to 0; x = 9 if x = 2 and w = 1; x = x + 1 if w = 1 "
                 + "and x < 2");
         due("goes in a later round", chain.margin(0), 0);
+        SteeringHouse first = Checks.house("state x 0 to 2; world w 0 to 0; x = 9 if x = 0 and w = 1; x = 0 if x = 1 "
+                + "and w = 0");
+        due("by a narrow world into what a wide one takes", first.margin(1), 0);
+        due("by none", first.margin(2), 2);
     }
 
     private static void newWishes() {
