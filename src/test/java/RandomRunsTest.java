@@ -65,6 +65,10 @@ public final class RandomRunsTest {
     // ---- texts
 
     private void tell() {
+        if (any(5) == 0) {
+            give(soup(), 0);
+            return;
+        }
         if (any(3) == 0) {
             give(any(6) == 0 ? spoil(steering()) : steering(), 0);
             return;
@@ -116,6 +120,22 @@ public final class RandomRunsTest {
             text = spoil(text);
         }
         give(text, 0);
+    }
+
+    /** Lines and pieces of lines in no order, so that every fault is met at many places. */
+    private String soup() {
+        String[] pieces = {"state x 0 to 1", "state y -1 to 1", "state z 0 to 0", "state q 0 to 1", "push u 0 to 2",
+            "push v 0 to 2", "push c 0 to 0", "world w 0 to 8", "world d 0 to 2", "num k 0 to 1", "num m 0 to 1",
+            "num n 0 to 0", "sight s = x", "sight r = u", "sight t = 1", "x = x + u", "y = y", "x = 1 if x = 0",
+            "y = - x * y + 3 if x < 1 and y > 2", "x = 1+1+1+1+1+1+1+1+1+1+1+1+1+1+1", "y = x*x*x*x*x*x*x*x*x",
+            "state x 0 to 21", "state a -21 to", "state a 3 to 2", "state", "x =", "x = if", "u = 1", "sight x = 1",
+            "state to 1 to 2", "state b -20 to 20", "q = u", "1", "=", "x = k * w + d", "world k 1 to 2", "", "x < 1"};
+        StringBuilder text = new StringBuilder(any(4) > 0 ? "state x 0 to 1" : "");
+        int parts = any(16);
+        for (int i = 0; i < parts; i++) {
+            text.append(any(40) == 0 ? " " : ";").append(pieces[any(any(3) == 0 ? pieces.length : 21)]);
+        }
+        return text.toString();
     }
 
     /** A thing that someone might really want to steer. */
