@@ -14,8 +14,8 @@ import java.util.regex.Matcher;
 import java.util.regex.Pattern;
 
 /**
- * The document sentence by sentence, at its edges. Each test names the words that it is the test of; here it is looked
- * at whether these words stand in the document, and whether any words of its Terms and promises are left without a test.
+ * The document sentence by sentence, at its edges. Each test names the words that it is the test of; here it is
+ * looked at whether these words stand in the document, and whether any words of its Terms and promises have no test.
  */
 public final class EdgesTest {
     private static final Path DOCUMENT = Path.of("../shared/DOC.md");
@@ -94,7 +94,8 @@ public final class EdgesTest {
         Set<String> there = new TreeSet<>();
         for (Method each : SteeringHouse.class.getDeclaredMethods()) {
             if (Modifier.isPublic(each.getModifiers())) {
-                there.add(each.toGenericString().replace("SteeringHouse.", "").replace("java.util.", "").replace(",", ", "));
+                there.add(each.toGenericString().replace("SteeringHouse.", "").replace("java.util.", "")
+                        .replace(",", ", "));
             }
         }
         for (Constructor<?> each : SteeringHouse.class.getDeclaredConstructors()) {

@@ -1,3 +1,5 @@
+import java.math.BigInteger;
+
 /** Terms III and promises 24 to 28, sentence by sentence, at their edges: ranks, forms, gains, roots. */
 final class LinearEdges {
     private static final int LEAST = Checks.LEAST;
@@ -96,16 +98,20 @@ final class LinearEdges {
     }
 
     private static void sums() {
-        of("III", "A, B, C are the sums of these for states in STEPS (a state without a STEP: itself, once), for pushes in them, "
-                + "and for states in sights;");
-        SteeringHouse house = Checks.house("state x 0 to 1; state y 0 to 1; push u 0 to 1; x = 2 * x + 3 * y - x + 5 * u - 4 * u; "
-                + "sight s = y - x + x - 2 * y + u");
+        of("III", "A, B, C are the sums of these for states in STEPS (a state without a STEP: itself, once), for "
+                + "pushes in them, and for states in sights;");
+        SteeringHouse house = Checks.house("state x 0 to 1; state y 0 to 1; push u 0 to 1; "
+                + "x = 2 * x + 3 * y - x + 5 * u - 4 * u; sight s = y - x + x - 2 * y + u");
         due("a trace of 1 and 1", house.form(1), -2);
         due("a determinant of 1", house.form(0), 1);
         due("a state without a STEP stays", Checks.house("state x 0 to 1").form(0), -1);
         due("B is 1, 0", house.rank(false), 1);
         due("C is 0, -1: of A's rows only y, that stays", house.rank(true), 1);
         due("a STEP without it", Checks.house("state x 0 to 1; x = 1").form(0), 0);
+        SteeringHouse anew = Checks.house(ALL + "sight s = x; sight r = y");
+        due("two rows of C", anew.rank(true), 2);
+        Checks.thing(anew, ALL + "sight s = x + y; sight r = 2 * x + 2 * y");
+        due("C of the new THING alone", anew.rank(true), 1);
 
         of("III", "all of them are within -20 .. 20, too.");
         linear(ALL + "x = 10 * x + 10 * x", 1);
@@ -131,14 +137,31 @@ final class LinearEdges {
         due("two states, B alone", Checks.house(ALL + "x = x + u; y = y").rank(false), 1);
         due("three states by A A B", Checks.house(CHAIN).rank(false), 3);
         due("three states, B and A B alone", Checks.house(THREE + "x = 0; y = z; z = u").rank(false), 2);
-        due("two pushes, all by B", Checks.house("state x 0 to 1; state y 0 to 1; push u 0 to 1; push v 0 to 1; x = u; y = v")
+        due("two pushes, all by B", Checks.house("state x 0 to 1; state y 0 to 1; push u 0 to 1; push v 0 to 1; "
+                + "x = u; y = v")
                 .rank(false), 2);
         due("large numbers that nearly cancel", Checks.house(THREE + "x = 20 * x + 20 * y + 20 * z + 20 * u; "
                 + "y = 20 * x + 20 * y + 19 * z + 20 * u; z = 20 * x + 20 * y + 20 * z + 19 * u").rank(false), 3);
         due("large numbers that cancel", Checks.house(THREE + "x = 20 * x + 20 * y + 20 * z + 20 * u; "
                 + "y = 20 * x + 20 * y + 20 * z + 20 * u; z = 20 * x + 20 * y + 20 * z + 20 * u").rank(false), 1);
 
+        String both = THREE + "push v 0 to 1; ";
+        due("three states by A A B of the second push", Checks.house(both + "x = y; y = z; z = v").rank(false), 3);
+        due("of the first push", Checks.house(both + "x = y; y = z; z = u").rank(false), 3);
+        due("the first in none, the second in two", Checks.house(both + "x = y; y = v; z = 0").rank(false), 2);
+        due("two of three: x, y", Checks.house(both + "x = u; y = v; z = 0").rank(false), 2);
+        due("two of three: x, z", Checks.house(both + "x = u; y = 0; z = v").rank(false), 2);
+        due("two of three: y, z", Checks.house(both + "x = 0; y = u; z = v").rank(false), 2);
+        due("the same column twice", Checks.house(both + "x = u + v; y = u + v; z = u + v").rank(false), 1);
+        due("three columns of four", Checks.house(both + "x = x + u; y = y + v; z = x + y").rank(false), 3);
+
         of("III", "CAN SEE: of C, C A, C A A.");
+        due("two sights of three states: x, z", Checks.house(THREE + "x = 0; y = 0; z = 0; "
+                + "sight s = x; sight r = z").rank(true), 2);
+        due("two sights of three states: y, z", Checks.house(THREE + "x = 0; y = 0; z = 0; "
+                + "sight s = y; sight r = z").rank(true), 2);
+        due("three by C A of the second", Checks.house(THREE + "x = x; y = z; z = 0; sight s = x; "
+                + "sight r = y").rank(true), 3);
         due("no sight", Checks.house("state x 0 to 1").rank(true), 0);
         due("a sight of no state", Checks.house(ALL + "sight s = u + w + k + 3").rank(true), 0);
         due("one state", Checks.house("state x 0 to 1; sight s = x").rank(true), 1);
@@ -153,8 +176,11 @@ final class LinearEdges {
         of("III", "FORM: the polynomial of A: the factor of each power, the highest 1.");
         String[] texts = {"state x 0 to 1; x = 7 * x", ALL + "x = 2 * x + 3 * y; y = 5 * x - 4 * y",
             THREE + "x = 2 * x - y; y = 3 * z + x; z = 5 * y - 4 * z + x", "state x 0 to 1; x = 0",
-            THREE + "x = 20 * x; y = 20 * y; z = 20 * z", THREE + "x = - 20 * x; y = - 20 * y; z = - 20 * z"};
-        int[][] want = {{-7, 1}, {-23, 2, 1}, {37, -22, 2, 1}, {0, 1}, {-8000, 1200, -60, 1}, {8000, 1200, 60, 1}};
+            THREE + "x = 20 * x; y = 20 * y; z = 20 * z", THREE + "x = - 20 * x; y = - 20 * y; z = - 20 * z",
+            THREE + "x = 2 * x + 3 * y + 5 * z; y = 7 * x + 11 * y + 13 * z; z = 17 * x + 19 * y + 20 * z"};
+        int[][] want = {{-7, 1}, {-23, 2, 1}, {37, -22, 2, 1}, {0, 1}, {-8000, 1200, -60, 1}, {8000, 1200, 60, 1},
+            {2 * (11 * 20 - 13 * 19) * -1 + 3 * (7 * 20 - 13 * 17) - 5 * (7 * 19 - 11 * 17),
+                2 * 11 - 3 * 7 + 2 * 20 - 5 * 17 + 11 * 20 - 13 * 19, -33, 1}};
         for (int i = 0; i < texts.length; i++) {
             SteeringHouse house = Checks.house(texts[i]);
             for (int power = 0; power < want[i].length; power++) {
@@ -164,8 +190,8 @@ final class LinearEdges {
     }
 
     private static void places() {
-        of("III", "PLACE: with one push and full CAN PUSH (as many as states) the gains, one a state, by which A and B times gains "
-                + "together have a told FORM: exact fractions in lowest terms.");
+        of("III", "PLACE: with one push and full CAN PUSH (as many as states) the gains, one a state, by which A and "
+                + "B times gains together have a told FORM: exact fractions in lowest terms.");
         SteeringHouse one = Checks.house("state x 0 to 1; push u 0 to 1; x = 5 * x + 6 * u");
         due("5 + 6 g = 2, so g = - 1 / 2", one.place(-2, 0, 0), 1);
         due("numerator", one.gain(0, false), -1);
@@ -181,11 +207,69 @@ final class LinearEdges {
         due("z z - z - 3 g1 z - 3 (g0 - g1)", two.place(999, -999, 0), 2);
         due("g1 = 998 / 3", two.gain(1, false) * 1000 + two.gain(1, true), 998003);
         due("g0 = - 999 / 3 + 998 / 3 = - 1 / 3", two.gain(0, false) * 1000 + two.gain(0, true), -997);
+        SteeringHouse full = Checks.house(THREE + "x = 2 * x + 3 * y + 5 * z + 2 * u; "
+                + "y = 7 * x - 11 * y + 13 * z - 3 * u; z = 17 * x + 19 * y - 20 * z + 5 * u");
+        due("with no 0 at all", full.place(12, -34, 56), 3);
+        long[][] a = {{2, 3, 5}, {7, -11, 13}, {17, 19, -20}};
+        Checks.due("exactly", makesForm(a, new long[] {2, -3, 5}, full, new long[] {12, -34, 56}), true);
+        SteeringHouse half = Checks.house("state x 0 to 1; state y 0 to 1; push u 0 to 1; x = 2 * x + 3 * y + 2 * u; "
+                + "y = 7 * x - 5 * y - 4 * u");
+        due("with no 0 at all", half.place(-9, 8, 0), 2);
+        long[][] c = {{2, 3}, {7, -5}};
+        Checks.due("exactly", makesForm(c, new long[] {2, -4}, half, new long[] {-9, 8}), true);
         SteeringHouse three = Checks.house(CHAIN);
         due("a chain", three.place(-999, 998, 999), 3);
         due("its gains are the factors, turned", three.gain(0, false), 999);
         due("its gains are the factors, turned", three.gain(1, false), -998);
         due("its gains are the factors, turned", three.gain(2, false), -999);
+    }
+
+    /** Whether A + B K, by the gains that the house tells, has the wanted factors, and they are in lowest terms. */
+    private static boolean makesForm(long[][] a, long[] b, SteeringHouse house, long[] want) {
+        int n = b.length;
+        BigInteger down = BigInteger.ONE;
+        for (int i = 0; i < n; i++) {
+            BigInteger top = BigInteger.valueOf(house.gain(i, false));
+            BigInteger bottom = BigInteger.valueOf(house.gain(i, true));
+            if (bottom.signum() <= 0 || !top.gcd(bottom).equals(BigInteger.ONE)) {
+                return false;
+            }
+            down = down.multiply(bottom);
+        }
+        BigInteger[][] m = new BigInteger[n][n];
+        for (int i = 0; i < n; i++) {
+            for (int j = 0; j < n; j++) {
+                m[i][j] = BigInteger.valueOf(a[i][j]).multiply(down).add(BigInteger.valueOf(b[i] * house.gain(j, false))
+                        .multiply(down.divide(BigInteger.valueOf(house.gain(j, true)))));
+            }
+        }
+        boolean fine = true;
+        for (int z = -3; z <= 3; z++) {
+            BigInteger polynomial = BigInteger.valueOf(z).pow(n);
+            for (int power = 0; power < n; power++) {
+                polynomial = polynomial.add(BigInteger.valueOf(want[power]).multiply(BigInteger.valueOf(z).pow(power)));
+            }
+            BigInteger[][] less = new BigInteger[n][n];
+            for (int i = 0; i < n; i++) {
+                for (int j = 0; j < n; j++) {
+                    less[i][j] = (i == j ? down.multiply(BigInteger.valueOf(z)) : BigInteger.ZERO).subtract(m[i][j]);
+                }
+            }
+            fine &= determinant(less).equals(polynomial.multiply(down.pow(n)));
+        }
+        return fine;
+    }
+
+    private static BigInteger determinant(BigInteger[][] m) {
+        if (m.length == 2) {
+            return m[0][0].multiply(m[1][1]).subtract(m[0][1].multiply(m[1][0]));
+        }
+        BigInteger sum = BigInteger.ZERO;
+        for (int i = 0; i < 3; i++) {
+            BigInteger[][] rest = {{m[1][(i + 1) % 3], m[1][(i + 2) % 3]}, {m[2][(i + 1) % 3], m[2][(i + 2) % 3]}};
+            sum = sum.add(m[0][i].multiply(determinant(rest)));
+        }
+        return sum;
     }
 
     private static void roots() {

@@ -46,7 +46,8 @@ final class ProofEdges {
     }
 
     private static void codes() {
-        of("V", "CODE: a law in short numbers: for one push: the sum of gains (-128 .. 127) times states, and a bias (likewise),");
+        of("V", "CODE: a law in short numbers: for one push: the sum of gains (-128 .. 127) times states, and a bias "
+                + "(likewise),");
         SteeringHouse house = Checks.house("state x -2 to 2; state y -1 to 1; state z 0 to 1; push u -4 to 4; x = x");
         house.code(1, 0, 0, 0, 0);
         due("the first gain", codedPush(house, house.cell(2, 1, 1)), 2);
@@ -133,25 +134,26 @@ final class ProofEdges {
     }
 
     private static void walks() {
-        of("V", "WALK: from a CELL by CODE with worlds and nums at their least: ticks until it comes to a CELL where it was (how "
-                + "long that round is),");
-        SteeringHouse house = Checks.house("state x 0 to 6; push u 0 to 1; world w 1 to 2; num k 0 to 1; x = 4 if x = 6 and w = 1 and k = 0; "
-                + "x = x + u");
+        of("V", "WALK: from a CELL by CODE with worlds and nums at their least: ticks until it comes to a CELL where "
+                + "it was (how long that round is),");
+        SteeringHouse house = Checks.house("state x 0 to 6; push u 0 to 1; world w 1 to 2; num k 0 to 1; "
+                + "x = 4 if x = 6 and w = 1 and k = 0; x = x + u");
         house.code(0, 0, 0, 1, 0);
         due("into 4, 5, 6", house.walk(0), 3);
         due("from 6", house.walk(6), 3);
         house.code(0, 0, 0, 0, 0);
         due("it stays", house.walk(3), 1);
         due("from 6 to 4, where it stays", house.walk(6), 1);
-        SteeringHouse longest = Checks.house("state x 1 to 20; state y 1 to 20; push u 0 to 0; y = y + 1 if y < 20; y = 1; "
-                + "x = x + 1 if y = 20 and x < 20; x = 1 if y = 20");
+        SteeringHouse longest = Checks.house("state x 1 to 20; state y 1 to 20; push u 0 to 0; y = y + 1 if y < 20; "
+                + "y = 1; x = x + 1 if y = 20 and x < 20; x = 1 if y = 20");
         due("through all 400", longest.walk(399), 400);
-        SteeringHouse last = Checks.house("state x 1 to 20; state y 1 to 20; push u 0 to 0; y = y + 1 if y < 20; y = 1 if x < 20; "
-                + "x = x + 1 if y = 20 and x < 20");
+        SteeringHouse last = Checks.house("state x 1 to 20; state y 1 to 20; push u 0 to 0; y = y + 1 if y < 20; "
+                + "y = 1 if x < 20; x = x + 1 if y = 20 and x < 20");
         due("through all 400 to one that stays", last.walk(0), 1);
 
         of("V", "or until it is OUT.");
-        SteeringHouse out = Checks.house("state x 1 to 20; state y 1 to 20; push u 0 to 0; y = y + 1 if y < 20; y = 1; x = x + 1 if y = 20");
+        SteeringHouse out = Checks.house("state x 1 to 20; state y 1 to 20; push u 0 to 0; y = y + 1 if y < 20; "
+                + "y = 1; x = x + 1 if y = 20");
         due("through all 400 and OUT", out.walk(0), -2);
         due("OUT at once", out.walk(399), -2);
         house.code(0, 0, 0, 1, 0);
@@ -213,8 +215,8 @@ final class ProofEdges {
         due("of the GOAL, but claimed with more: it has a PUSH", house.proved(4), 1);
         house.claim(3, 6);
         due("now none", house.proved(4), 0);
-        SteeringHouse worlds = Checks.house("state x 0 to 3; push u 0 to 8; world w -6 to 20; x = 3 if x = 3; x = 2 if u < 8; x = 9 if w = 20 and "
-                + "x = 0; x = 2 if w = 20; x = 3");
+        SteeringHouse worlds = Checks.house("state x 0 to 3; push u 0 to 8; world w -6 to 20; x = 3 if x = 3; "
+                + "x = 2 if u < 8; x = 9 if w = 20 and x = 0; x = 2 if w = 20; x = 3");
         Checks.goal(worlds, "x = 3");
         worlds.claim(3, 0);
         worlds.claim(1, 5);
@@ -283,6 +285,7 @@ final class ProofEdges {
         due("or tells its own", house.trouble(), 1);
 
         of("VI", "0 it wasn't;");
+        TroubleTest.refusingCallsClearIt();
         due("a new object", new SteeringHouse().trouble(), 0);
         house.safe();
         due("not refused", house.trouble(), 0);
@@ -391,6 +394,11 @@ final class ProofEdges {
         of("40", "The PUSH that CODE tells in a CELL (0 gains, bias, shift until told).");
         SteeringHouse house = Checks.house(LINE);
         due("until told", house.coded(4), 1);
+        SteeringHouse three = Checks.house("state x 3 to 4; state y 3 to 4; state z 3 to 4; push u -4 to 4");
+        due("until told, of three gains", three.coded(7), 4);
+        three.code(1, 1, 1, 1, 0);
+        Checks.thing(three, "state x 3 to 4; state y 3 to 4; state z 3 to 4; push u -4 to 4");
+        due("until told anew", three.coded(7), 4);
         house.code(1, 0, 0, -3, 0);
         due("the least", house.coded(0), 0);
         due("the most", house.coded(4), 2);

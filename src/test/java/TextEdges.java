@@ -114,6 +114,10 @@ final class TextEdges {
 
     private static void signs() {
         of("single ones of < > = + - * ;):");
+        for (String sign : new String[] {"<", ">", "=", "+", "-", "*", ";", "1x", "x;"}) {
+            fault(sign.repeat(400 / sign.length()), sign.equals("x;") ? 2 : 1, 0);
+        }
+        fault("state x 0 to 1;" + "x;".repeat(192), 1, 16);
         fine("state x -2 to 2; x = - x * x + 1 - 1 if x < 1 and x > 0 and x = 1", 5);
         fault("state x 0 to 1; x == 1", 1, 19);
         fault("state x 0 to 1; x = 1 if x <= 1", 1, 28);
@@ -142,13 +146,13 @@ final class TextEdges {
         fault("; state x 0 to 1", 1, 0);
         fault("state x 0 to 1; ; state y 0 to 1", 1, 16);
         fault("state x 0 to 1 state y 0 to 1", 1, 15);
-        fine("state x 0 to 0;state y 0 to 0;state z 0 to 0;push u 0 to 0;push v 0 to 0;world w 0 to 0;world d 0 to 0;"
-                + "num k 0 to 0;num m 0 to 0;sight s=x;sight r=y;x=x;x=y;x=z;y=x;y=y;y=z;z=x;z=y", 1);
+        fine("state x 0 to 0;state y 0 to 0;state z 0 to 0;push u 0 to 0;push v 0 to 0;world w 0 to 0;world d 0 to "
+                + "0;num k 0 to 0;num m 0 to 0;sight s=x;sight r=y;x=x;x=y;x=z;y=x;y=y;y=z;z=x;z=y", 1);
 
         of("LINE: state NAME SPAN, push NAME SPAN, world NAME SPAN, num NAME SPAN, sight NAME = SUM, NAME = SUM, or "
                 + "NAME = SUM if TEST.");
-        String[] tokens = ("state x 0 to 1 ; push u 0 to 1 ; world w 0 to 1 ; num k 0 to 1 ; sight s = x + u * w - k ; "
-                + "x = u ; x = - x if x = k and u < w and 1 > 0").split(" ");
+        String[] tokens = ("state x 0 to 1 ; push u 0 to 1 ; world w 0 to 1 ; num k 0 to 1 ; "
+                + "sight s = x + u * w - k ; x = u ; x = - x if x = k and u < w and 1 > 0").split(" ");
         String whole = " 5 11 17 23 28 30 32 34 38 43 47 51 55 ";
         StringBuilder text = new StringBuilder();
         for (int k = 0; k <= tokens.length; k++) {
@@ -449,9 +453,9 @@ final class TextEdges {
 
     private static void numbering() {
         of("A CELL: a value of each state within its SPAN: numbered, the first state counting slowest.");
-        SteeringHouse house = Checks.house("state x -1 to 1; state y 3 to 4; state z 0 to 2; push u -1 to 0; push v 5 to 7; "
-                + "world w 0 to 1; world d 0 to 2; num k 0 to 1; num m 0 to 1; sight s = 125 * w + 25 * d + 5 * k + m; "
-                + "sight r = 10 * u + v");
+        SteeringHouse house = Checks.house("state x -1 to 1; state y 3 to 4; state z 0 to 2; push u -1 to 0; "
+                + "push v 5 to 7; world w 0 to 1; world d 0 to 2; num k 0 to 1; num m 0 to 1; "
+                + "sight s = 125 * w + 25 * d + 5 * k + m; sight r = 10 * u + v");
         int cell = 0;
         for (int x = -1; x <= 1; x++) {
             for (int y = 3; y <= 4; y++) {
@@ -525,9 +529,10 @@ final class TextEdges {
     }
 
     private static void nexts() {
-        of("NEXT of a CELL by a PUSH and a WORLD: of each state the SUM of its first STEP whose TEST holds (or that has "
-                + "none),");
-        SteeringHouse first = Checks.house("state x 0 to 9; x = 1 if x = 0; x = 2 if x < 2; x = 3; x = 4 if x = 5; x = 5");
+        of("NEXT of a CELL by a PUSH and a WORLD: of each state the SUM of its first STEP whose TEST holds (or that "
+                + "has none),");
+        SteeringHouse first = Checks.house("state x 0 to 9; x = 1 if x = 0; x = 2 if x < 2; x = 3; x = 4 if x = 5; "
+                + "x = 5");
         due("the first of all", first.next(0, 0, 0), 1);
         due("the second", first.next(1, 0, 0), 2);
         due("the one without a TEST", first.next(2, 0, 0), 3);
@@ -535,6 +540,15 @@ final class TextEdges {
         SteeringHouse mixed = Checks.house("state x 0 to 9; state y 0 to 9; y = 7; x = 8 if y = 0; x = 9");
         due("each state its own", mixed.next(0, 0, 0), 87);
         due("and its own second", mixed.next(1, 0, 0), 97);
+
+        SteeringHouse three = Checks.house("state x 0 to 3; state y 0 to 3; state z 0 to 3; push u -1 to 1; "
+                + "push v 0 to 2; world w 0 to 1; num k 0 to 1; z = z + u; y = y + v; x = x + w + k");
+        for (int push = 0; push < 9; push++) {
+            for (int world = 0; world < 4; world++) {
+                due("three states", three.next(three.cell(1, 1, 2), push, world),
+                        three.cell(1 + world / 2 + world % 2, 1 + push % 3, 1 + push / 3));
+            }
+        }
 
         of("of the values as they were;");
         SteeringHouse swap = Checks.house("state x 0 to 3; state y 0 to 3; x = y; y = x");
@@ -554,8 +568,8 @@ final class TextEdges {
         due("beyond it", out.next(out.cell(1, 0, 0), 7, 0), -2);
         due("to its lower end", out.next(out.cell(1, 0, 0), 2, 0), out.cell(1, -2, 0));
         due("below it", out.next(out.cell(1, 0, 0), 1, 0), -2);
-        SteeringHouse one = Checks.house("state x 0 to 3; state y 0 to 3; state z 0 to 3; push u 0 to 2; x = 4 if u = 0; "
-                + "y = 4 if u = 1; z = 4 if u = 2");
+        SteeringHouse one = Checks.house("state x 0 to 3; state y 0 to 3; state z 0 to 3; push u 0 to 2; "
+                + "x = 4 if u = 0; y = 4 if u = 1; z = 4 if u = 2");
         due("the first of them", one.next(0, 0, 0), -2);
         due("the second of them", one.next(0, 1, 0), -2);
         due("the third of them", one.next(0, 2, 0), -2);
@@ -564,10 +578,10 @@ final class TextEdges {
     }
 
     private static void sights() {
-        of("A sight's value: its SUM, which may have states, worlds, nums and pushes (those of the tick that leads to "
-                + "the CELL;");
-        String text = "state x 0 to 3; push u 2 to 3; world w 1 to 2; num k 0 to 1; sight s = x + 10 * u + 100 * w + 500 * k; "
-                + "x = u";
+        of("A sight's value: its SUM, which may have states, worlds, nums and pushes (those of the tick that leads "
+                + "to the CELL;");
+        String text = "state x 0 to 3; push u 2 to 3; world w 1 to 2; num k 0 to 1; "
+                + "sight s = x + 10 * u + 100 * w + 500 * k; x = u";
         SteeringHouse house = Checks.house(text);
         due("of the PUSH and WORLD that led there", house.sight(3, 1, 3, 0), 3 + 30 + 200 + 500);
         house.tick(1);

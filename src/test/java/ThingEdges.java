@@ -3,7 +3,8 @@ final class ThingEdges {
     private static final int LEAST = Checks.LEAST;
     private static final int MOST = Checks.MOST;
     private static final String PLAIN = "state x 0 to 4; push u -1 to 1; x = x + u";
-    private static final String FULL = "state x 0 to 4; push u -1 to 1; world w 0 to 1; num k 1 to 2; sight s = x; x = x + u";
+    private static final String FULL = "state x 0 to 4; push u -1 to 1; world w 0 to 1; num k 1 to 2; sight s = x; "
+            + "x = x + u";
 
     private ThingEdges() {
     }
@@ -167,10 +168,61 @@ final class ThingEdges {
         due("sights told", house.can(0), 5);
         due("they can be told again", house.told(0, 0, 3) ? 1 : 0, 1);
 
+        afterLargerOnes();
+
         of(3, "how many CELLS.");
         due("least", Checks.thing(house, "state x 7 to 7"), 1);
         due("most", Checks.thing(house, "state x 1 to 20; state y 1 to 20"), 400);
         due("from large to small", Checks.thing(house, PLAIN), 5);
+    }
+
+    /** What a larger thing left behind is of no matter to a smaller one. */
+    private static void afterLargerOnes() {
+        SteeringHouse house = Checks.house("state x 1 to 20; state y 1 to 10; push u 0 to 2; push v 0 to 2; "
+                + "world w 0 to 8; num k 0 to 2; sight s = x + y; sight r = y");
+        Checks.goal(house, "x = 1");
+        Checks.cost(house, "x + u");
+        due("all are safe", house.safe(), 200);
+        due("all nine", house.allowed(199), 511);
+        due("margin", house.margin(199), 2);
+        due("ticks", house.ticks(0), 0);
+        due("best", house.best(199, 20), 400);
+        due("rank", house.rank(true), 2);
+        due("strays are refused", house.strays(), -1);
+        for (int tick = 1; tick <= 30; tick++) {
+            house.tick(8);
+        }
+        due("can", house.can(4), 200);
+        house.claim(0, 0);
+        house.claim(199, 0);
+        due("breaks", house.breaks(), 199);
+        Checks.thing(house, "state x 0 to 2; push u 0 to 1; num k 1 to 2; sight s = x; x = x + 1 + u");
+        due("it goes OUT", house.safe(), 0);
+        due("in round 1", house.layer(2), 1);
+        due("in round 3", house.layer(0), 3);
+        due("no PUSH", house.allowed(0), 0);
+        due("no margin", house.margin(0), -2);
+        due("no GOAL", house.ticks(1), -2);
+        due("no COST", house.best(0, 1), 0);
+        due("LOST", house.best(0, 3), 1000000);
+        due("one state", house.rank(true), 1);
+        due("one factor", house.form(0), -1);
+        due("all at first", house.can(2), 3);
+        due("nums", house.fit(), 2);
+        due("least", house.guess(0, false), 0);
+        due("most", house.guess(0, true), 2);
+        due("no claim", house.breaks(), -2);
+        due("NEXT", house.next(0, 1, 1), 2);
+        due("STEPS", house.count(8), 1);
+        Checks.goal(house, "x = 2");
+        due("TICKS", house.ticks(0), 1);
+        due("LAW", house.law(0), 1);
+        Checks.thing(house, "state x 0 to 2; sight s = 0 * x");
+        due("safe again", house.safe(), 3);
+        due("not in a round", house.layer(0), 0);
+        due("C anew", house.rank(true), 0);
+        due("best again", house.best(0, 3), 0);
+        due("no GOAL again", house.ticks(2), -2);
     }
 
     private static void thingsRefused() {
@@ -192,7 +244,8 @@ final class ThingEdges {
         house.code(0, 0, 0, 1, 0);
         house.claim(4, 0);
         house.tick(1);
-        for (String text : new String[] {"", "state x 0 to 1;", "state y 0 to 21", "q", "push u 0 to 1", "state x 0 to 1; x = q"}) {
+        for (String text : new String[] {"", "state x 0 to 1;", "state y 0 to 21", "q", "push u 0 to 1", "state x 0 "
+                + "to 1; x = q"}) {
             refused("thing of " + text, house, Checks.thing(house, text), 4);
             due("the tape is empty", house.count(11), 0);
             due("CELLS", house.count(5), 5);
@@ -205,6 +258,9 @@ final class ThingEdges {
             due("GOAL", house.ticks(1), 3);
             due("COST", house.best(1, 1), 7);
             due("CODE", house.coded(0), 2);
+            due("its NAMES", Checks.good(house, "x > 0"), 4);
+            due("and no others", Checks.good(house, "y = 0"), -1);
+            due("COST of its NAMES", Checks.cost(house, "7 + x - x + u - u"), 0);
         }
     }
 
@@ -437,8 +493,9 @@ final class ThingEdges {
         for (int what = 0; what < least.length; what++) {
             due("least: count " + what, house.count(what), least[what]);
         }
-        Checks.thing(house, "state x 1 to 20;state y 1 to 5;state z 1 to 4;push u 0 to 2;push v 0 to 2;world w 0 to 2;"
-                + "world d 0 to 2;num k 0 to 2;num m 0 to 0;sight s=x;sight r=y;x=x if x=1;x=y;x=z;y=x;y=y;y=z;z=x;z=y");
+        Checks.thing(house, "state x 1 to 20;state y 1 to 5;state z 1 to 4;push u 0 to 2;push v 0 to 2;world w 0 to "
+                + "2;world d 0 to 2;num k 0 to 2;num m 0 to 0;sight s=x;sight r=y;x=x if "
+                + "x=1;x=y;x=z;y=x;y=y;y=z;z=x;z=y");
         int[] most = {3, 2, 2, 2, 2, 400, 9, 27, 8, 400, 0, 400, 30, 400};
         for (int tick = 0; tick < 30; tick++) {
             house.tick(0);
@@ -528,7 +585,8 @@ final class ThingEdges {
 
     private static void nexts() {
         of(13, "NEXT; -2: OUT.");
-        SteeringHouse house = Checks.house("state x 0 to 9; push u 0 to 2; world w 0 to 1; num k 0 to 1; x = x + u + w + k");
+        SteeringHouse house = Checks.house("state x 0 to 9; push u 0 to 2; world w 0 to 1; num k 0 to 1; "
+                + "x = x + u + w + k");
         due("the least of all", house.next(0, 0, 0), 0);
         due("the most of all", house.next(5, 2, 3), 9);
         due("the last CELL", house.next(9, 0, 0), 9);
@@ -552,8 +610,8 @@ final class ThingEdges {
 
     private static void sights() {
         of(14, "A sight's value in a CELL to which a PUSH and WORLD led; -2^31 for none such.");
-        SteeringHouse house = Checks.house("state x 0 to 9; push u 0 to 2; world w 0 to 1; num k 0 to 1; sight s = x + 10 * u; "
-                + "sight r = 10 * w + k");
+        SteeringHouse house = Checks.house("state x 0 to 9; push u 0 to 2; world w 0 to 1; num k 0 to 1; "
+                + "sight s = x + 10 * u; sight r = 10 * w + k");
         due("the first", house.sight(9, 2, 0, 0), 29);
         due("the second", house.sight(0, 0, 3, 1), 11);
         for (int cell : new int[] {-1, 10, LEAST, MOST}) {
@@ -570,6 +628,7 @@ final class ThingEdges {
         }
         due("no sight at all", Checks.house("state x 0 to 1").sight(0, 0, 0, 0), Checks.NO_VALUE);
         due("without a THING", new SteeringHouse().sight(0, 0, 0, 0), Checks.NO_VALUE);
-        due("a sum beyond its bounds", Checks.house("state x 0 to 1; sight s = 999 * 999 * 999").sight(1, 0, 0, 0), 1000000);
+        due("a sum beyond its bounds", Checks.house("state x 0 to 1; "
+                + "sight s = 999 * 999 * 999").sight(1, 0, 0, 0), 1000000);
     }
 }

@@ -31,7 +31,7 @@ public final class TroubleTest {
         house.stays(0, 0, 0, 0);
     }
 
-    private static void refusingCallsClearIt() {
+    static void refusingCallsClearIt() {
         SteeringHouse house = troubled();
         house.next(0, 0, 0);
         cleared("next", house);

@@ -171,7 +171,8 @@ final class WatcherEdges {
 
     private static void pushFaults() {
         of("IV", "FAULTY: fault 0 is none; then (1 ..) push i fails (it is 0 whatever is told,");
-        SteeringHouse house = Checks.house("state x 0 to 9; push u 0 to 2; push v 0 to 1; sight s = x; x = x + 3 * v + u");
+        SteeringHouse house = Checks.house("state x 0 to 9; push u 0 to 2; push v 0 to 1; sight s = x; "
+                + "x = x + 3 * v + u");
         house.told(0, 0, 0);
         house.tick(5);
         due("none fails", house.can(0), 1);
@@ -204,6 +205,18 @@ final class WatcherEdges {
             due("whatever is told", span.told(1, 0, failing[i] + 9), true);
             due("SPAN " + spans[i], span.can(1), 1);
         }
+        SteeringHouse two = Checks.house("state x 0 to 9; push u 2 to 4; push v 3 to 5; world w 0 to 1; sight s = x; "
+                + "x = u + v - w");
+        two.tick(8);
+        two.told(1, 0, 9);
+        due("4 + 5, or less the world", two.named(), 0);
+        two.anew();
+        two.tick(8);
+        two.told(1, 0, 6);
+        due("2 + 5 - 1, or 4 + 3 - 1", two.named(), -2);
+        two.tick(7);
+        two.told(2, 0, 6);
+        due("2 + 4, or 4 + 3 - 1", two.can(1) * 10 + two.can(2), 11);
         SteeringHouse seen = Checks.house("state x 0 to 1; push u 1 to 3; sight s = u");
         seen.tick(2);
         seen.told(1, 0, 1);
@@ -255,7 +268,8 @@ final class WatcherEdges {
     }
 
     private static void named() {
-        of("IV", "NAMED: the only fault by which there are CELLS in which it can be; -2 if more are left, -3 if none is.");
+        of("IV", "NAMED: the only fault by which there are CELLS in which it can be; "
+                + "-2 if more are left, -3 if none is.");
         SteeringHouse house = Checks.house(BOTH);
         due("all five are left", house.named(), -2);
         house.tick(3);
@@ -311,11 +325,21 @@ final class WatcherEdges {
         due("a wrong one of the first CELL, told now", house.known(0), 5);
         due("counts now", house.known(2), 0);
         due("as it does by all", house.can(0), 0);
+        SteeringHouse five = Checks.house(BOTH);
+        five.tick(3);
+        five.told(1, 1, 0);
+        due("by the last fault", five.can(4), 2);
+        five.told(0, 1, 1);
+        due("of a sight told late", five.known(0), 2);
+        due("by the last fault none", five.can(4), 0);
+        due("of a sight told late", five.known(1), 0);
+        due("and none by the last fault", five.can(4), 0);
     }
 
     private static void fits() {
         of("IV", "FIT: how many values of nums together (all in their SPANS) can be, fault 0.");
-        SteeringHouse house = Checks.house("state x 0 to 9; num k -1 to 1; num m 0 to 8; sight s = x; sight r = k; x = k * m + 1");
+        SteeringHouse house = Checks.house("state x 0 to 9; num k -1 to 1; num m 0 to 8; sight s = x; sight r = k; "
+                + "x = k * m + 1");
         due("all 27 together", house.fit(), 27);
         house.tick(0);
         due("those that go OUT can't be", house.fit(), 9 + 9 + 2);
@@ -334,9 +358,10 @@ final class WatcherEdges {
     }
 
     private static void probes() {
-        of("IV", "PROBE of a CELL: the ALLOWED PUSH with the most different NEXTS by those values of nums that can be (FIT),");
-        String text = "state x 0 to 9; push u 0 to 2; num k 1 to 3; sight s = k; x = x + k * u if x < 2; x = x - k * u if x > 7; "
-                + "x = 99 if u > 0 and x = 5; x = x + k if u = 1 and x = 3 and k < 3";
+        of("IV", "PROBE of a CELL: the ALLOWED PUSH with the most different NEXTS by those values of nums that can "
+                + "be (FIT),");
+        String text = "state x 0 to 9; push u 0 to 2; num k 1 to 3; sight s = k; x = x + k * u if x < 2; "
+                + "x = x - k * u if x > 7; x = 99 if u > 0 and x = 5; x = x + k if u = 1 and x = 3 and k < 3";
         SteeringHouse house = Checks.house(text);
         due("three by PUSH 1", house.probe(0), 1);
         due("none that isn't ALLOWED", house.probe(5), 0);
@@ -344,8 +369,8 @@ final class WatcherEdges {
         due("PUSH 1", house.probe(3), 1);
         house.told(0, 0, 3);
         due("one num fits: one NEXT by each", house.probe(0), 0);
-        SteeringHouse some = Checks.house("state x 0 to 9; push u 0 to 1; num k 1 to 3; sight s = k * k - 3 * k; x = 5 if k < 3 and u = 0; "
-                + "x = 6 if u = 0; x = k");
+        SteeringHouse some = Checks.house("state x 0 to 9; push u 0 to 1; num k 1 to 3; sight s = k * k - 3 * k; "
+                + "x = 5 if k < 3 and u = 0; x = 6 if u = 0; x = k");
         due("two by PUSH 0, three by PUSH 1", some.probe(0), 1);
         some.told(0, 0, -2);
         due("1 and 2 fit", some.fit(), 2);
@@ -353,8 +378,11 @@ final class WatcherEdges {
         some.anew();
         some.told(0, 0, 0);
         due("3 alone fits", some.probe(0), 0);
-        SteeringHouse ends = Checks.house("state x 0 to 9; push u 0 to 1; num k 1 to 3; sight s = k * k - 4 * k; x = 5 if k < 3 and u = 0; "
-                + "x = 6 if u = 0; x = k");
+        SteeringHouse alike = Checks.house("state x 0 to 9; push u 0 to 1; num k 1 to 3; x = 5 if k > 1 and u = 0; "
+                + "x = 6 if u = 0; x = 7 if k < 2; x = 8 if k = 2; x = 9");
+        due("the last two alike by PUSH 0, three by PUSH 1", alike.probe(0), 1);
+        SteeringHouse ends = Checks.house("state x 0 to 9; push u 0 to 1; num k 1 to 3; sight s = k * k - 4 * k; "
+                + "x = 5 if k < 3 and u = 0; x = 6 if u = 0; x = k");
         due("all three fit: three by PUSH 1", ends.probe(0), 1);
         ends.told(0, 0, -3);
         due("1 and 3 fit: two by each", ends.probe(0), 0);
@@ -363,9 +391,11 @@ final class WatcherEdges {
         due("none fits: the least that is ALLOWED", some.probe(0), 0);
 
         of("IV", "worlds at their least (of as many the least PUSH).");
-        SteeringHouse least = Checks.house("state x 0 to 9; push u 0 to 2; world w 0 to 1; num k 1 to 2; x = k * w if u = 0; x = k");
+        SteeringHouse least = Checks.house("state x 0 to 9; push u 0 to 2; world w 0 to 1; num k 1 to 2; "
+                + "x = k * w if u = 0; x = k");
         due("PUSH 0 tells only by the other world; of 1 and 2 the least", least.probe(0), 1);
-        SteeringHouse first = Checks.house("state x 0 to 9; push u 0 to 2; world w -1 to 0; num k 1 to 2; x = 5 + k * w if u = 0; x = k");
+        SteeringHouse first = Checks.house("state x 0 to 9; push u 0 to 2; world w -1 to 0; num k 1 to 2; "
+                + "x = 5 + k * w if u = 0; x = k");
         due("at its least it tells", first.probe(0), 0);
         SteeringHouse notFirst = Checks.house("state x 0 to 2; push u 0 to 1; x = x + 1 - u if x = 2");
         due("the least that is ALLOWED", notFirst.probe(2), 1);
@@ -439,6 +469,24 @@ final class WatcherEdges {
         }
         due("trouble", house.trouble(), 0);
         due("only fault 0", Checks.house("state x 0 to 1").can(0), 2);
+        SteeringHouse full = Checks.house("state x 0 to 20; push u 0 to 1; push v 0 to 1; sight s = x; sight r = x; "
+                + "x = x + u + v");
+        for (int tick = 1; tick <= 30; tick++) {
+            full.tick(tick < 11 ? 3 : 0);
+        }
+        for (int fault = 0; fault < 10; fault++) {
+            due("asked twice", full.can(fault % 5), fault % 5 == 1 || fault % 5 == 2 ? 11 : 1);
+        }
+        for (int round = 0; round < 3; round++) {
+            due("20 by none", full.can(0), 1);
+            due("10 to 20 by push 1, till 20 is told", full.can(1), round == 0 ? 11 : 1);
+            due("10 to 20 by push 2, till 20 is told", full.can(2), round == 0 ? 11 : 1);
+            due("20 by sight 1, till that isn't 0", full.can(3), round == 0 ? 1 : 0);
+            due("20 by sight 2", full.can(4), 1);
+            due("20 by none", full.canBe(20), 1);
+            due("known", full.known(29 + round % 2), 1);
+            full.told(30 - round, 0, 20);
+        }
 
         of("31", "NONE (1).");
         for (int fault : new int[] {-1, 5, LEAST, MOST}) {
@@ -567,12 +615,24 @@ final class WatcherEdges {
             house.tick(0);
         }
         house.told(30, 0, 0);
+        due("at 0", house.guess(0, true) * 10 + house.fit(), 2);
         due("30", house.anew(), 30);
+        house.told(0, 0, 3);
+        due("the least is not of the ticks that were", house.guess(0, false), 3);
+        house.tick(1);
+        house.told(1, 0, 4);
+        due("nor are the nums", house.fit(), 1);
+        due("one", house.anew(), 1);
         due("none now", house.anew(), 0);
         due("trouble", house.trouble(), 0);
         due("ticks", house.count(12), 0);
         due("any CELL", house.can(0), 5);
+        due("the least", house.guess(0, false), 0);
+        due("the most", house.guess(0, true), 4);
+        due("nums", house.fit(), 2);
         due("nothing is told", house.told(0, 0, 1), true);
+        due("the least", house.guess(0, false), 1);
+        due("the most", house.guess(0, true), 1);
         house.tick(1);
         due("nor of tick 1", house.told(1, 0, 2), true);
         due("only what is told now counts", house.fit(), 1);

@@ -7,7 +7,8 @@ final class WishEdges {
     private static final int LOST = 1000000;
     private static final int THROWN = 77777;
     private static final String LINE = "state x 0 to 4; push u -1 to 1; x = x + u";
-    private static final String CHAIN = "state x 1 to 20; state y 1 to 20; y = y + 1 if y < 20; y = 1; x = x + 1 if y = 20";
+    private static final String CHAIN = "state x 1 to 20; state y 1 to 20; y = y + 1 if y < 20; y = 1; "
+            + "x = x + 1 if y = 20";
     private static final int[] NO_CELLS = {-1, 5, 400, LEAST, MOST};
 
     private WishEdges() {
@@ -68,6 +69,15 @@ final class WishEdges {
         due("all 400", Checks.house(CHAIN).count(9), 400);
         due("the only one", Checks.house("state x 3 to 3").count(9), 1);
         due("and safe", Checks.house("state x 3 to 3").safe(), 1);
+        SteeringHouse many = Checks.house("state x 1 to 20; state y 1 to 20; push u 0 to 1; x = x + u if x < 20");
+        due("those at two sides", Checks.good(many, "x * y < 40"), 112);
+        for (int cell = 0; cell < 400; cell++) {
+            boolean good = many.state(cell, 0) * many.state(cell, 1) < 40;
+            due("GOOD, and it stays: " + cell, many.layer(cell), good ? 0 : -2);
+            boolean right = (many.state(cell, 0) + 1) * many.state(cell, 1) < 40 || many.state(cell, 0) == 20;
+            due("ALLOWED: " + cell, many.allowed(cell), good ? right ? 3 : 1 : 0);
+            due("BEST: " + cell, many.best(cell, 0), good ? 0 : LOST);
+        }
     }
 
     private static void goals() {
@@ -121,7 +131,8 @@ final class WishEdges {
         due("one that leads to one that goes", ring.allowed(2), 0);
         Checks.good(ring, "x > 0");
         due("without the other none", ring.safe(), 0);
-        String worlds = "state x 0 to 3; push u 0 to 8; world w -6 to 20; x = 9 if x = 3; x = 3 if u < 8; x = 3 if w = ";
+        String worlds = "state x 0 to 3; push u 0 to 8; world w -6 to 20; x = 9 if x = 3; x = 3 if u < 8; "
+                + "x = 3 if w = ";
         due("the last of 27 WORLDS leads to one that goes", Checks.house(worlds + "20; x = 0").safe(), 0);
         due("the first of them", Checks.house(worlds + "-6; x = 0").safe(), 0);
         due("by every WORLD the last of 9 PUSHES keeps it", Checks.house(worlds + "21; x = 0").safe(), 3);
@@ -153,8 +164,8 @@ final class WishEdges {
     }
 
     private static void layers() {
-        of("II", "LAYER of a GOOD CELL that isn't SAFE: in which round it went: 1 if none of its PUSHES leads to GOOD CELLS "
-                + "alone,");
+        of("II", "LAYER of a GOOD CELL that isn't SAFE: in which round it went: 1 if none of its PUSHES leads to "
+                + "GOOD CELLS alone,");
         SteeringHouse house = Checks.house("state x 0 to 5; push u 1 to 2; world w 0 to 1; x = x + u + w");
         due("beyond at once", house.layer(5), 1);
         due("by one WORLD of each PUSH", house.layer(4), 1);
@@ -171,6 +182,38 @@ final class WishEdges {
         for (int cell = 0; cell < 400; cell++) {
             due("layer of " + cell, chain.layer(cell), 400 - cell);
         }
+        SteeringHouse rows = Checks.house("state x 1 to 20; state y 1 to 20; x = x + 1 if y < 20");
+        for (int cell = 0; cell < 400; cell++) {
+            due("many in one round: " + cell, rows.layer(cell), cell % 20 == 19 ? 0 : 20 - cell / 20);
+        }
+        Checks.good(rows, "x * 20 + y < 255");
+        for (int cell = 0; cell < 400; cell++) {
+            int last = cell % 20 < 14 ? 12 : 11;
+            int round = cell / 20 >= last ? -2 : cell % 20 == 19 ? 0 : last - cell / 20;
+            due("many in one round, to what isn't GOOD: " + cell, rows.layer(cell), round);
+        }
+        SteeringHouse first = Checks.house("state x 0 to 3; x = 99 if x = 0; x = x - 1 if x < 3");
+        for (int cell = 0; cell < 4; cell++) {
+            due("CELL 0 goes alone: " + cell, first.layer(cell), cell < 3 ? cell + 1 : 0);
+        }
+        SteeringHouse apart = Checks.house("state x -20 to 19; x = 99 if x = - 20; x = 99 if x = 12; "
+                + "x = 12 if x = - 15; x = - 20 if x = 5");
+        for (int cell = 0; cell < 40; cell++) {
+            int round = cell == 0 || cell == 32 ? 1 : cell == 5 || cell == 25 ? 2 : 0;
+            due("CELLS 0 and 32 go: " + cell, apart.layer(cell), round);
+        }
+        Checks.good(rows, "x > 0");
+        Checks.thing(rows, "state x 0 to 1; push u 0 to 1; x = x + u");
+        due("now safe", rows.layer(0), 0);
+        Checks.good(rows, "x = 2");
+        due("not GOOD", rows.layer(0), -2);
+        Checks.good(rows, "x = 0");
+        due("safe again", rows.layer(0), 0);
+        SteeringHouse turn = Checks.house("state x 0 to 1; x = 1 - x");
+        Checks.good(turn, "x = 0");
+        due("into what isn't GOOD", turn.layer(0), 1);
+        Checks.good(turn, "x > - 1");
+        due("GOOD now", turn.layer(0), 0);
     }
 
     private static void ticks() {
@@ -184,8 +227,10 @@ final class WishEdges {
         Checks.good(house, "x < 3");
         due("none of the GOAL is GOOD", house.ticks(2), -2);
 
-        of("II", "k if it has no less and some PUSH leads by every WORLD to CELLS with TICKS below k, and one with k - 1");
-        SteeringHouse wind = Checks.house("state x 0 to 9; push u 1 to 2; world w 0 to 1; x = x - u - w if x > u + w; x = 0");
+        of("II", "k if it has no less and some PUSH leads by every WORLD to CELLS with TICKS below k, and one with k "
+                + "- 1");
+        SteeringHouse wind = Checks.house("state x 0 to 9; push u 1 to 2; world w 0 to 1; "
+                + "x = x - u - w if x > u + w; x = 0");
         Checks.goal(wind, "x = 0");
         int[] want = {0, 1, 1, 2, 2, 3, 3, 4, 4, 5};
         for (int cell = 0; cell < 10; cell++) {
@@ -196,10 +241,13 @@ final class WishEdges {
         for (int cell = 0; cell < 400; cell++) {
             due("ticks of " + cell, chain.ticks(cell), 399 - cell);
         }
-        SteeringHouse uneven = Checks.house("state x 0 to 4; world w 0 to 1; x = 0 if x = 1; x = 1 if x = 2; x = 2 if w = 1 and "
-                + "x = 3; x = 0 if x = 3");
+        SteeringHouse uneven = Checks.house("state x 0 to 4; world w 0 to 1; x = 0 if x = 1; x = 1 if x = 2; "
+                + "x = 2 if w = 1 and x = 3; x = 0 if x = 3");
         Checks.goal(uneven, "x = 0");
         due("the WORLD that takes most", uneven.ticks(3), 3);
+        SteeringHouse zero = Checks.house("state x 0 to 2; x = 0 if x = 2; x = 1");
+        Checks.goal(zero, "x = 1");
+        due("through CELL 0", zero.ticks(2), 2);
 
         of("II", "(the least PUSH that does with least k is its LAW);");
         due("both do: the least", wind.law(1), 0);
@@ -211,7 +259,8 @@ final class WishEdges {
         due("the least of the last two", nine.law(0), 7);
 
         of("II", "none else.");
-        SteeringHouse never = Checks.house("state x 0 to 2; push u 0 to 1; world w 0 to 1; x = x + w - u if x = 1; x = 1 if x = 2");
+        SteeringHouse never = Checks.house("state x 0 to 2; push u 0 to 1; world w 0 to 1; x = x + w - u if x = 1; "
+                + "x = 1 if x = 2");
         Checks.goal(never, "x = 0");
         due("not by every WORLD", never.ticks(1), -2);
         due("nor behind it", never.ticks(2), -2);
@@ -230,8 +279,8 @@ final class WishEdges {
     }
 
     private static void best() {
-        of("II", "BEST over a horizon h (0 .. 20): of a CELL what is paid at the worst, at least: LOST (1,000,000) of one that "
-                + "isn't GOOD, whatever h is;");
+        of("II", "BEST over a horizon h (0 .. 20): of a CELL what is paid at the worst, at least: LOST (1,000,000) "
+                + "of one that isn't GOOD, whatever h is;");
         SteeringHouse house = Checks.house(LINE);
         Checks.cost(house, "1");
         Checks.good(house, "x > 0");
@@ -246,8 +295,10 @@ final class WishEdges {
         }
         due("though it goes OUT then", Checks.house("state x 0 to 1; x = 9").best(0, 0), 0);
 
-        of("II", "else the least over all PUSHES of: COST there and the most over WORLDS of BEST over h - 1 of where it leads");
-        SteeringHouse wind = Checks.house("state x 0 to 9; push u 0 to 1; world w 0 to 1; x = x - u - w if x > u + w - 1; x = 0");
+        of("II", "else the least over all PUSHES of: COST there and the most over WORLDS of BEST over h - 1 of where "
+                + "it leads");
+        SteeringHouse wind = Checks.house("state x 0 to 9; push u 0 to 1; world w 0 to 1; "
+                + "x = x - u - w if x > u + w - 1; x = 0");
         Checks.cost(wind, "10 * x + 3 * u");
         due("over 1 without a push", wind.best(5, 1), 50);
         due("over 2 the push is worth it", wind.best(5, 2), 50 + 3 + 40);
@@ -293,10 +344,11 @@ final class WishEdges {
     }
 
     private static void worst() {
-        of("II", "WORST: of a CELL over a horizon, the LAWS of BEST being followed (over h, h - 1, ..): the row of WORLDS, each "
-                + "the least of those with the most BEST over what is left of where it leads (LOST if that is OUT).");
-        SteeringHouse house = Checks.house("state x 0 to 9; push u 0 to 1; world w 0 to 2; x = x + w - 1 - u if x + w - 1 - u > - 1 "
-                + "and x + w - 1 - u < 10");
+        of("II", "WORST: of a CELL over a horizon, the LAWS of BEST being followed (over h, h - 1, ..): the row of "
+                + "WORLDS, each the least of those with the most BEST over what is left of where it leads (LOST if "
+                + "that is OUT).");
+        SteeringHouse house = Checks.house("state x 0 to 9; push u 0 to 1; world w 0 to 2; "
+                + "x = x + w - 1 - u if x + w - 1 - u > - 1 and x + w - 1 - u < 10");
         Checks.cost(house, "x");
         due("up", worst(house, 5, 3, 0), 2);
         due("up again", worst(house, 5, 3, 1), 2);
@@ -304,8 +356,8 @@ final class WishEdges {
         due("over 1: the least", worst(house, 5, 1, 0), 0);
         due("over 20, the first", worst(house, 5, 20, 0), 2);
         due("over 20, the last", worst(house, 5, 20, 19), 0);
-        SteeringHouse law = Checks.house("state x 0 to 3; push u 0 to 1; world w 0 to 1; x = 1 if x = 0 and u = 1; x = 2 if x = 0; "
-                + "x = 3 if x = 1 and w = 1; x = 3 if x = 2 and w = 0; x = x if x < 3");
+        SteeringHouse law = Checks.house("state x 0 to 3; push u 0 to 1; world w 0 to 1; x = 1 if x = 0 and u = 1; "
+                + "x = 2 if x = 0; x = 3 if x = 1 and w = 1; x = 3 if x = 2 and w = 0; x = x if x < 3");
         Checks.cost(law, "100 * x * x - 4 * u");
         due("the LAW leads to 1", law.bestLaw(0, 3), 1);
         due("there by PUSH 1", worst(law, 0, 3, 0), 0);
@@ -317,8 +369,8 @@ final class WishEdges {
     }
 
     private static void margins() {
-        of("II", "MARGIN of a CELL: how much (0, 1, 2) the SPANS of all worlds may be made wider at both ends so that it is SAFE "
-                + "still;");
+        of("II", "MARGIN of a CELL: how much (0, 1, 2) the SPANS of all worlds may be made wider at both ends so "
+                + "that it is SAFE still;");
         int[] want = {0, 0, 1, 2, 2};
         for (int reach = 1; reach < 5; reach++) {
             SteeringHouse house = Checks.house("state x -9 to 9; push u -" + reach + " to " + reach
@@ -331,12 +383,34 @@ final class WishEdges {
         due("and by no more", lower.margin(0), 2);
         SteeringHouse high = Checks.house("state x 0 to 9; world w 5 to 5; x = 99 if w = 6; x = 0");
         due("its upper end goes up by one", high.margin(0), 0);
-        SteeringHouse both = Checks.house("state x 0 to 9; world w 5 to 5; world d 0 to 0; x = 99 if w * d = 14; x = 0");
+        SteeringHouse both = Checks.house("state x 0 to 9; world w 5 to 5; world d 0 to 0; x = 99 if w * d = 14; "
+                + "x = 0");
         due("all worlds: 7 and 2", both.margin(0), 1);
-        SteeringHouse nums = Checks.house("state x 0 to 9; world w 0 to 0; num k 0 to 1; x = 99 if k > 1; x = 99 if k < 0; "
-                + "x = 99 if k * w = 2; x = 0");
+        SteeringHouse nums = Checks.house("state x 0 to 9; world w 0 to 0; num k 0 to 1; x = 99 if k > 1; "
+                + "x = 99 if k < 0; x = 99 if k * w = 2; x = 0");
         due("no nums, but each of theirs", nums.margin(0), 1);
         due("no world at all", Checks.house("state x 0 to 1; num k 0 to 1; x = k").margin(1), 2);
+        SteeringHouse two = Checks.house("state x 0 to 9; world w 0 to 0; world d 0 to 0; x = 99 if w * d > 4; "
+                + "x = 99 if d > 2; x = 99 if d < - 2; x = 99 if w > 2; x = 99 if w < - 2; x = 0");
+        due("no world by more than two, beside another", two.margin(0), 2);
+        SteeringHouse chain = Checks.house("state x 0 to 4; world w 0 to 0; x = 99 if x = 4 and w = 1; "
+                + "x = x + 1 if x < 4 and w = 2; x = x + 1 if x < 4 and x > 1 and w = 0");
+        due("into what goes with a wider world", chain.margin(4), 0);
+        due("by the world as it is, into that", chain.margin(3), 0);
+        due("and so on", chain.margin(2), 0);
+        due("by one wider by two alone", chain.margin(1), 1);
+        due("and so on", chain.margin(0), 1);
+        SteeringHouse down = Checks.house("state x 0 to 4; world w 0 to 0; x = 99 if x = 0 and w = 1; "
+                + "x = x - 1 if x > 0 and x < 3 and w = 0");
+        int[] downs = {0, 0, 0, 2, 2};
+        for (int cell = 0; cell < 5; cell++) {
+            due("down to CELL 0, which goes with a wider world: " + cell, down.margin(cell), downs[cell]);
+        }
+        SteeringHouse most = Checks.house("state x 1 to 20; state y 1 to 20; push u -1 to 1; world w 0 to 0; "
+                + "x = x + u + w; y = 1 if y = 20");
+        for (int cell = 0; cell < 400; cell++) {
+            due("of 400: " + cell, most.margin(cell), 1);
+        }
 
         of("II", "-2 if it isn't SAFE at 0.");
         due("it goes OUT", Checks.house("state x 0 to 9; world w 0 to 0; x = x + 1").margin(0), -2);
@@ -358,11 +432,11 @@ final class WishEdges {
         due("-22, too", below.margin(0), 1);
         SteeringHouse many = Checks.house("state x 0 to 9; world w -13 to 13; x = 99 if w = 15; x = 0");
         due("31 WORLDS", many.margin(0), 1);
-        SteeringHouse most = Checks.house("state x 0 to 9; world w 0 to 0; world d 0 to 0; num k 0 to 8; num m 0 to 2; "
-                + "x = 99 if w * d * k * m = 64; x = 0");
+        SteeringHouse most = Checks.house("state x 0 to 9; world w 0 to 0; world d 0 to 0; num k 0 to 8; "
+                + "num m 0 to 2; x = 99 if w * d * k * m = 64; x = 0");
         due("675 WORLDS: the last", most.margin(0), 1);
-        SteeringHouse kept = Checks.house("state x 0 to 9; world w 0 to 0; world d 0 to 0; num k 0 to 8; num m 0 to 2; "
-                + "x = 99 if w * d * k * m = 65; x = 0");
+        SteeringHouse kept = Checks.house("state x 0 to 9; world w 0 to 0; world d 0 to 0; num k 0 to 8; "
+                + "num m 0 to 2; x = 99 if w * d * k * m = 65; x = 0");
         due("675 WORLDS: none", kept.margin(9), 2);
     }
 
@@ -516,7 +590,8 @@ final class WishEdges {
         due("the only one over 1", worst(house, 0, 1, 0), 0);
 
         of("22", "-2 if it was OUT or at a CELL that isn't GOOD ahead of that.");
-        SteeringHouse out = Checks.house("state x 0 to 2; world w 0 to 1; x = 9 if w = 1 and x = 2; x = 2 if w = 1 and x = 1; x = 0");
+        SteeringHouse out = Checks.house("state x 0 to 2; world w 0 to 1; x = 9 if w = 1 and x = 2; "
+                + "x = 2 if w = 1 and x = 1; x = 0");
         due("the one that leads OUT", worst(out, 2, 2, 0), 1);
         due("OUT behind that", worst(out, 2, 2, 1), -2);
         due("and on", worst(out, 2, 20, 19), -2);
