@@ -667,6 +667,7 @@ public final class SteeringHouse {
             System.arraycopy(other.relations, 0, relations, 0, MOST_ONES);
         }
 
+        /** Bound behind each sign by hand, as this stands deep under other calls and is asked most. */
         private int sumOf(int from, int to, int[] values) {
             int total = 0;
             int term = 0;
@@ -674,14 +675,17 @@ public final class SteeringHouse {
             for (int i = from; i < to; i++) {
                 int factor = slots[i] < 0 ? wholes[i] : values[slots[i]];
                 if (joins[i] == TIMES) {
-                    term = Math.max(-MOST_SUM, Math.min(MOST_SUM, term * factor));
+                    term *= factor;
+                    term = term > MOST_SUM ? MOST_SUM : term < -MOST_SUM ? -MOST_SUM : term;
                 } else {
-                    total = Math.max(-MOST_SUM, Math.min(MOST_SUM, minus ? total - term : total + term));
+                    total += minus ? -term : term;
+                    total = total > MOST_SUM ? MOST_SUM : total < -MOST_SUM ? -MOST_SUM : total;
                     term = factor;
                     minus = joins[i] == MINUS;
                 }
             }
-            return Math.max(-MOST_SUM, Math.min(MOST_SUM, minus ? total - term : total + term));
+            total += minus ? -term : term;
+            return total > MOST_SUM ? MOST_SUM : total < -MOST_SUM ? -MOST_SUM : total;
         }
 
         private boolean allHold(int from, int to, int[] values) {
@@ -785,7 +789,8 @@ public final class SteeringHouse {
 
         /** At least 1, so that it can divide. */
         private int width(int slot, int wider) {
-            return Math.max(1, high[slot] - low[slot] + 1 + 2 * wider);
+            int width = high[slot] - low[slot] + 1 + 2 * wider;
+            return width > 0 ? width : 1;
         }
 
         private int parts(int kind, int wider) {
