@@ -6,6 +6,7 @@ import java.util.ArrayList;
 import java.util.HashSet;
 import java.util.List;
 import java.util.Map;
+import java.util.Optional;
 import java.util.Set;
 import java.util.TreeMap;
 import java.util.TreeSet;
@@ -33,8 +34,14 @@ public final class CompiledRulesTest {
     private CompiledRulesTest() {
     }
 
+    /** The lister of bytecode comes with javac; a machine that has none of it can't be looked at so. */
     public static void main(String[] args) throws Exception {
-        read(listing());
+        Optional<ToolProvider> lister = ToolProvider.findFirst("javap");
+        if (lister.isEmpty()) {
+            System.out.println("CompiledRulesTest: nothing was looked at, as this machine lists no bytecode");
+            return;
+        }
+        read(listing(lister.get()));
         depths();
         library();
         nothingIdle();
@@ -42,7 +49,7 @@ public final class CompiledRulesTest {
         Checks.end("CompiledRulesTest");
     }
 
-    private static String listing() throws Exception {
+    private static String listing(ToolProvider lister) throws Exception {
         Path place = Path.of(SteeringHouse.class.getProtectionDomain().getCodeSource().getLocation().toURI());
         List<String> words = new ArrayList<>(List.of("-p", "-c"));
         try (Stream<Path> files = Files.list(place)) {
@@ -51,7 +58,7 @@ public final class CompiledRulesTest {
         }
         StringWriter text = new StringWriter();
         PrintWriter out = new PrintWriter(text);
-        ToolProvider.findFirst("javap").orElseThrow().run(out, out, words.toArray(new String[0]));
+        lister.run(out, out, words.toArray(new String[0]));
         out.flush();
         return text.toString();
     }
